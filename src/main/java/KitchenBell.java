@@ -48,13 +48,18 @@ public final class KitchenBell {
     private static final int INTS = 3;
     private static final int SHORTS = 4;
 
-    private final Larder larder = new Larder();
-    private final Service service = new Service(larder);
-    private final Hearth hearth = new Hearth(larder);
-    private final Mess mess = new Mess(larder);
+    private final Larder larder;
+    private final Service service;
+    private final Hearth hearth;
+    private final Mess mess;
     private final Held[] shelves = new Held[SHELVES];
 
     public KitchenBell() {
+        Larder shared = new Larder();
+        larder = shared;
+        service = new Service(shared);
+        hearth = new Hearth(shared);
+        mess = new Mess(shared);
     }
 
     // ---- dishes and stores
@@ -569,22 +574,18 @@ public final class KitchenBell {
             super(size, colour, time, crew, heat);
         }
 
-        @Override
         int kindNumber() {
             return HOT;
         }
 
-        @Override
         int fires() {
             return STOVES;
         }
 
-        @Override
         int weighs() {
             return super.weighs() + timeTaken * handsTaken;
         }
 
-        @Override
         void spoil() {
             throw new IllegalStateException("burnt");
         }
@@ -595,22 +596,18 @@ public final class KitchenBell {
             super(size, colour, time, crew);
         }
 
-        @Override
         int kindNumber() {
             return ROAST;
         }
 
-        @Override
         int fires() {
             return SPITS;
         }
 
-        @Override
         int weighs() {
             return super.weighs() + 100;
         }
 
-        @Override
         void spoil() {
             throw new IllegalArgumentException("fell off the spit");
         }
@@ -621,22 +618,18 @@ public final class KitchenBell {
             super(size, colour, time, crew, heat);
         }
 
-        @Override
         int kindNumber() {
             return BAKED;
         }
 
-        @Override
         int fires() {
             return OVENS;
         }
 
-        @Override
         int weighs() {
             return super.weighs() + heat;
         }
 
-        @Override
         void spoil() {
             throw new UnsupportedOperationException("fell in");
         }
@@ -647,17 +640,14 @@ public final class KitchenBell {
             super(size, colour, time + 1, crew + 1);
         }
 
-        @Override
         int kindNumber() {
             return GILDED;
         }
 
-        @Override
         int weighs() {
             return 2 * super.weighs();
         }
 
-        @Override
         void spoil() {
             throw new NoSuchElementException("no gold leaf");
         }
@@ -1106,7 +1096,6 @@ public final class KitchenBell {
             for (int kind = 0; kind < 3; kind++) {
                 Arrays.fill(busy[kind], 0L);
             }
-            Arrays.fill(atLeast[0], 0L);
             atLeast[0][0] = ALL_TICKS;
         }
 
@@ -1265,10 +1254,8 @@ public final class KitchenBell {
 
         /** Fills the portions; the leavings stay as they are. */
         void shareOut() {
-            for (int dish = 0; dish < DISHES; dish++) {
-                for (int officer = 0; officer < OFFICERS; officer++) {
-                    portion[officer][dish] = 0;
-                }
+            for (int officer = 0; officer < officers; officer++) {
+                Arrays.fill(portion[officer], 0);
             }
             for (int turn = 0; turn < officers; turn++) {
                 feed(turns[turn]);
@@ -1306,10 +1293,6 @@ public final class KitchenBell {
         int clearAway() {
             for (int dish = 0; dish < larder.known; dish++) {
                 leavings[dish] = uneaten(dish);
-            }
-            // The portions are eaten now: left standing, they would be taken off again.
-            for (int officer = 0; officer < officers; officer++) {
-                Arrays.fill(portion[officer], 0);
             }
             return allLeft();
         }

@@ -12,6 +12,7 @@ public final class AgainstPlainTest {
     /** How unlike the dishes of this run are: like ones are laid in more ways. */
     private final int looks;
     private final int most;
+    private String where = "";
     private String call;
 
     private AgainstPlainTest(long seed) {
@@ -45,7 +46,7 @@ public final class AgainstPlainTest {
     private void step(int seed, int n) {
         int which = n < 12 ? 0 : random.nextInt(2) == 0 ? likely() : random.nextInt(34);
         MET[which]++;
-        DUE.is("seed " + seed + ", call " + n, 0, 0);
+        where = "seed " + seed + ", call " + n + ": ";
         if (which < 9) {
             dishes(which);
         } else if (which < 17) {
@@ -69,7 +70,7 @@ public final class AgainstPlainTest {
 
     private void same(String told, long got, long want) {
         call = told;
-        DUE.is(call, got, want);
+        DUE.is(where + call, got, want);
     }
 
     private void dishes(int which) {

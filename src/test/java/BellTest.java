@@ -8,6 +8,8 @@ public final class BellTest {
         ordersThatAreNone();
         firesAndHands();
         ovensCool();
+        ovensCoolBackwards();
+        gapsThatAreTooShort();
         upToFortyEightTicks();
         theLeastOrder();
         moreThanSix();
@@ -180,6 +182,63 @@ public final class BellTest {
         fired(b, 1, 0, 0, 0);
         fired(b, 0, 0, 1, 1);
         fired(b, 2, 2, 1, 2);
+    }
+
+    /** What is over fire already leaves ticks between itself and the bell. */
+    private static void ovensCoolBackwards() {
+        KitchenBell cool = new KitchenBell();
+        come(cool, 2, 23, 0);
+        come(cool, 3, 22, 9);
+        come(cool, 3, 21, 1);
+        DUE.is("fire: a cooler one nearer to the bell", cool.fire(order(0, 1, 2)), 0);
+        fired(cool, 1, 2, 0, 1);
+        fired(cool, 2, 0, 0, 2);
+        KitchenBell late = new KitchenBell();
+        come(late, 2, 13, 0);
+        come(late, 3, 12, 9);
+        come(late, 3, 11, 1);
+        come(late, 3, 21, 1);
+        DUE.is("fire: a cooler one at the bell alone", late.fire(order(0, 1, 2, 3)), 1);
+        fired(late, 1, 1, 0, 1);
+        fired(late, 2, 0, 0, 2);
+        fired(late, 3, -2, -2, 3);
+        KitchenBell hot = new KitchenBell();
+        come(hot, 2, 23, 0);
+        come(hot, 3, 12, 1);
+        come(hot, 3, 11, 9);
+        come(hot, 3, 11, 1);
+        DUE.is("fire: a hotter one not nearer", hot.fire(order(0, 1, 2, 3)), 1);
+        fired(hot, 1, 2, 0, 1);
+        fired(hot, 2, 3, 0, 2);
+        fired(hot, 3, 0, 0, 3);
+        KitchenBell other = new KitchenBell();
+        come(other, 2, 23, 0);
+        come(other, 3, 12, 1);
+        come(other, 1, 11, 0);
+        DUE.is("fire: a stove has no heat", other.fire(order(0, 1, 2)), 0);
+        fired(other, 2, 0, 0, 2);
+    }
+
+    private static void gapsThatAreTooShort() {
+        KitchenBell b = new KitchenBell();
+        come(b, 2, 11, 0);
+        come(b, 1, 22, 0);
+        come(b, 1, 21, 0);
+        b.have(3, 2);
+        DUE.is("fire: one tick is no two", b.fire(order(0, 1, 2)), 1);
+        fired(b, 1, 1, 0, 1);
+        fired(b, 2, 3, 0, 2);
+        KitchenBell full = new KitchenBell();
+        come(full, 1, 23, 0);
+        come(full, 1, 23, 0);
+        come(full, 1, 23, 0);
+        come(full, 2, 21, 0);
+        full.have(2, 3);
+        full.have(3, 9);
+        DUE.is("fire: all of nine hands are taken", full.fire(order(0, 1, 2, 3)), 0);
+        fired(full, 2, 0, 2, 2);
+        fired(full, 3, 2, 0, 3);
+        DUE.is("hands(1)", full.hands(1), 9);
     }
 
     private static void upToFortyEightTicks() {

@@ -52,6 +52,10 @@ public final class DishesTest {
         DUE.is("dish BAKED, heat 9", b.dish(34, 3, 101, 9), 5);
         DUE.is("dish GILDED, any heat", b.dish(44, 3, 13, 10), 6);
         DUE.is("count(0)", b.count(0), 7);
+        int[] times = {0, 0, 1, 12, 1, 10, 2};
+        for (int dish = 0; dish < 7; dish++) {
+            DUE.is("look(" + dish + ", 3)", b.look(dish, 3), times[dish]);
+        }
     }
 
     private static void wrongDishes() {

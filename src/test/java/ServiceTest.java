@@ -149,28 +149,35 @@ public final class ServiceTest {
         DUE.is("layings()", b.layings(), 1);
     }
 
+    /** Nine dishes of one size, all CHOSEN, by their kinds and colours. */
+    private static KitchenBell nine(int[] kinds, int[] colours) {
+        KitchenBell b = new KitchenBell();
+        for (int i = 0; i < 9; i++) {
+            b.choose(b.dish(10 * kinds[i] + colours[i], 1, 11, 5));
+        }
+        return b;
+    }
+
     private static void triesAreSpent() {
-        // Four dishes with a mirror image each and one more that has none: for the middle alone.
-        KitchenBell b = kitchen(10, 20, 0, 40, 10, 20, 0, 40, 30);
-        chooseAll(b, 0, 1, 2, 3, 4, 5, 6, 7, 8);
-        DUE.is("layings() of nine", b.layings(), -5);
-        DUE.is("lay() of nine", b.lay() > 0 ? 1 : 0, 1);
-        // The two that fit nothing are found only at the end of all tries.
-        KitchenBell late = new KitchenBell();
-        for (int i = 0; i < 9; i++) {
-            late.dish(i % 4 * 10 + (i < 7 ? 0 : i - 6), 1, 11, 5);
-            late.choose(i);
-        }
-        int answer = late.lay();
-        DUE.is("lay() of nine with odd ones", answer, PlainKitchen.triesOf(late, 9));
-        DUE.is("count(5)", late.count(5), answer > 0 ? 1 : 0);
-        KitchenBell spent = new KitchenBell();
-        int[] told = {0, 0, 0, 10, 20, 30, 40, 11, 22};
-        for (int i = 0; i < 9; i++) {
-            spent.dish(told[i], 1, 11, 5);
-            spent.choose(i);
-        }
-        DUE.is("lay() spent or not", spent.lay(), PlainKitchen.triesOf(spent, 9));
+        int[] ends = {3, 0, 0, 0, 0, 0, 0, 0, 0};
+        KitchenBell found = nine(new int[] {4, 3, 2, 1, 4, 4, 1, 3, 0}, ends);
+        DUE.is("lay() just before tries are spent", found.lay(), 49977);
+        DUE.is("count(5), laid", found.count(5), 1);
+        DUE.is("layings() spent", found.layings(), -5);
+        DUE.is("count(5), still laid", found.count(5), 1);
+        KitchenBell spent = nine(new int[] {4, 3, 2, 3, 4, 4, 2, 1, 0}, ends);
+        DUE.is("lay() that would be found just after", spent.lay(), -5);
+        DUE.is("count(5), spent", spent.count(5), 0);
+        KitchenBell none = nine(new int[] {4, 4, 0, 0, 0, 2, 1, 0, 4}, new int[] {0, 1, 2, 1, 2, 2, 2, 2, 1});
+        DUE.is("lay() of none before tries are spent", none.lay(), -4);
+        DUE.is("layings() of none before tries are spent", none.layings(), 0);
+        KitchenBell late = nine(new int[] {4, 4, 1, 4, 0, 4, 2, 3, 4}, new int[] {0, 2, 0, 2, 0, 0, 2, 0, 0});
+        DUE.is("lay() of none, spent", late.lay(), -5);
+        KitchenBell many = nine(new int[] {4, 4, 3, 2, 0, 3, 3, 3, 2}, new int[] {1, 0, 2, 2, 0, 1, 2, 1, 2});
+        DUE.is("layings() just before tries are spent", many.layings(), 384);
+        KitchenBell more = nine(new int[] {3, 3, 1, 2, 2, 1, 2, 3, 3}, new int[] {2, 1, 0, 0, 0, 0, 0, 1, 2});
+        DUE.is("layings() just after", more.layings(), -5);
+        DUE.is("lay() of these", more.lay(), PlainKitchen.triesOf(more, 9));
     }
 
     // Promise 13
@@ -381,6 +388,18 @@ public final class ServiceTest {
         b.fail(2, false);
         DUE.is("serve(), as much as there is", b.serve(), 2);
         DUE.is("good(-1, 2), all gone", b.good(-1, 2), 0);
+        for (int good = 0; good < 8; good++) {
+            KitchenBell scant = kitchen(0, 10);
+            scant.needs(0, good, 4);
+            scant.needs(1, good, 5);
+            scant.store(good, 8);
+            scant.choose(0);
+            scant.choose(1);
+            scant.lay();
+            DUE.is("serve(), too little of " + good, scant.serve(), -3);
+            scant.store(good, 1);
+            DUE.is("serve(), enough of " + good, scant.serve(), 2);
+        }
         KitchenBell soon = kitchen(0);
         soon.choose(0);
         soon.lay();
