@@ -13,6 +13,7 @@ public final class BellTest {
         upToFortyEightTicks();
         theLeastOrder();
         moreThanSix();
+        nine();
         firedIsOfTheLatest();
         nothingToFire();
         DUE.end();
@@ -334,6 +335,25 @@ public final class BellTest {
         for (int dish = 0; dish < 6; dish++) {
             fired(b, dish, aheadOfSix[dish], 0, turnsOfSix[dish]);
         }
+    }
+
+    private static void nine() {
+        KitchenBell b = new KitchenBell();
+        for (int i = 0; i < 9; i++) {
+            come(b, 1 + i % 3, i < 3 ? 22 : 31, 5);
+        }
+        // Three rows of 3, 3 and 2 ticks, one for each kind of fires; four hands for one each, not for 2 + 2 + 2.
+        DUE.is("bell() of nine", b.bell(), 6);
+        for (int i = 3; i < 9; i++) {
+            fired(b, i, i < 6 ? 0 : 3, 0, i - 3);
+        }
+        fired(b, 0, 6, 0, 6);
+        fired(b, 1, 6, 0, 7);
+        fired(b, 2, 8, 0, 8);
+        DUE.is("hands(5)", b.hands(5), 3);
+        DUE.is("hands(6)", b.hands(6), 4);
+        DUE.is("hands(9)", b.hands(9), 2);
+        DUE.is("waits()", b.waits(), 29);
     }
 
     // Promises 21 to 23

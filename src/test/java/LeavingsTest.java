@@ -76,14 +76,14 @@ public final class LeavingsTest {
         DUE.is("eats(0, -2)", b.eats(0, -2), -1);
         DUE.is("count(6): of a mind only", b.count(6), 20);
         KitchenBell three = kinds();
-        three.left(0, 10);
+        three.left(0, 6);
         three.officer(3, 4, 1);
         three.officer(1, 4, 1);
         three.officer(2, 4, 1);
-        DUE.is("eats(0, -1) of three", three.eats(0, -1), 2);
+        DUE.is("eats(0, -1) of three", three.eats(0, -1), 0);
         DUE.is("eats(1, -1) of three", three.eats(1, -1), 4);
-        DUE.is("eats(2, -1) of three", three.eats(2, -1), 4);
-        DUE.is("last() of three", three.last(), 0);
+        DUE.is("eats(2, -1) of three", three.eats(2, -1), 2);
+        DUE.is("last() of three", three.last(), 2);
         DUE.is("eats(0, -1), no officers", kinds().eats(0, -1), -1);
     }
 
