@@ -1,5 +1,4 @@
 import java.util.Arrays;
-import java.util.NoSuchElementException;
 
 /**
  * A grand kitchen: its dishes and stores, the service on the table, the fires before the bell,
@@ -78,22 +77,22 @@ public final class KitchenBell {
         if (larder.known >= DISHES) {
             return FULL;
         }
-        return larder.enter(newDish(told, size, fire, heat));
+        return larder.enter(newDish(larder.known, told, size, fire, heat));
     }
 
-    private static Dish newDish(int told, int size, int fire, int heat) {
+    private static Dish newDish(int number, int told, int size, int fire, int heat) {
         int colour = told % 10;
         switch (told / 10) {
             case HOT:
-                return new HotDish(size, colour, fire / 10, fire % 10);
+                return new HotDish(number, size, colour, fire / 10, fire % 10);
             case ROAST:
-                return new RoastDish(size, colour, fire / 10, fire % 10);
+                return new RoastDish(number, size, colour, fire / 10, fire % 10);
             case BAKED:
-                return new BakedDish(size, colour, fire / 10, fire % 10, heat);
+                return new BakedDish(number, size, colour, fire / 10, fire % 10, heat);
             case GILDED:
-                return new GildedDish(size, colour, fire / 10, fire % 10);
+                return new GildedDish(number, size, colour, fire / 10, fire % 10);
             default:
-                return new Dish(size, colour);
+                return new Dish(number, size, colour);
         }
     }
 
@@ -475,13 +474,7 @@ public final class KitchenBell {
         try {
             dish.spoil();
         } catch (IllegalStateException failure) {
-            return HOT;
-        } catch (IllegalArgumentException failure) {
-            return ROAST;
-        } catch (UnsupportedOperationException failure) {
-            return BAKED;
-        } catch (NoSuchElementException failure) {
-            return GILDED;
+            return dish.number;
         }
         return NO_FAILURE;
     }
@@ -529,17 +522,19 @@ public final class KitchenBell {
 
     /** A COLD dish, and what all kinds share; nothing of it changes, so a SHELF may hold it as it is. */
     private static class Dish implements Held {
+        final int number;
         final int size;
         final int colour;
         final int timeTaken;
         final int handsTaken;
         final int heat;
 
-        Dish(int size, int colour) {
-            this(size, colour, 0, 0, 0);
+        Dish(int number, int size, int colour) {
+            this(number, size, colour, 0, 0, 0);
         }
 
-        Dish(int size, int colour, int timeTaken, int handsTaken, int heat) {
+        Dish(int number, int size, int colour, int timeTaken, int handsTaken, int heat) {
+            this.number = number;
             this.size = size;
             this.colour = colour;
             this.timeTaken = timeTaken;
@@ -560,18 +555,18 @@ public final class KitchenBell {
             return 10 + size;
         }
 
-        /** Throws the FAILURE of its kind; COLD dishes have none. */
+        /** Throws the FAILURE of the dish; COLD dishes have none. */
         void spoil() {
         }
     }
 
     private static class HotDish extends Dish {
-        HotDish(int size, int colour, int time, int crew) {
-            super(size, colour, time, crew, 0);
+        HotDish(int number, int size, int colour, int time, int crew) {
+            super(number, size, colour, time, crew, 0);
         }
 
-        HotDish(int size, int colour, int time, int crew, int heat) {
-            super(size, colour, time, crew, heat);
+        HotDish(int number, int size, int colour, int time, int crew, int heat) {
+            super(number, size, colour, time, crew, heat);
         }
 
         int kindNumber() {
@@ -587,13 +582,13 @@ public final class KitchenBell {
         }
 
         void spoil() {
-            throw new IllegalStateException("burnt");
+            throw new IllegalStateException("spoilt");
         }
     }
 
     private static class RoastDish extends HotDish {
-        RoastDish(int size, int colour, int time, int crew) {
-            super(size, colour, time, crew);
+        RoastDish(int number, int size, int colour, int time, int crew) {
+            super(number, size, colour, time, crew);
         }
 
         int kindNumber() {
@@ -607,15 +602,11 @@ public final class KitchenBell {
         int weighs() {
             return super.weighs() + 100;
         }
-
-        void spoil() {
-            throw new IllegalArgumentException("fell off the spit");
-        }
     }
 
     private static final class BakedDish extends HotDish {
-        BakedDish(int size, int colour, int time, int crew, int heat) {
-            super(size, colour, time, crew, heat);
+        BakedDish(int number, int size, int colour, int time, int crew, int heat) {
+            super(number, size, colour, time, crew, heat);
         }
 
         int kindNumber() {
@@ -629,15 +620,11 @@ public final class KitchenBell {
         int weighs() {
             return super.weighs() + heat;
         }
-
-        void spoil() {
-            throw new UnsupportedOperationException("fell in");
-        }
     }
 
     private static final class GildedDish extends RoastDish {
-        GildedDish(int size, int colour, int time, int crew) {
-            super(size, colour, time + 1, crew + 1);
+        GildedDish(int number, int size, int colour, int time, int crew) {
+            super(number, size, colour, time + 1, crew + 1);
         }
 
         int kindNumber() {
@@ -646,10 +633,6 @@ public final class KitchenBell {
 
         int weighs() {
             return 2 * super.weighs();
-        }
-
-        void spoil() {
-            throw new NoSuchElementException("no gold leaf");
         }
     }
 

@@ -550,6 +550,6 @@ final class PlainKitchen {
         if (!in(d, 0, 7)) return -1;
         if (shelf[d] == null) return -11;
         if (!(shelf[d] instanceof Food f)) return -12;
-        return f.kind == 0 ? -15 : f.kind;
+        return f.kind == 0 ? -15 : foods.indexOf(f);
     }
 }

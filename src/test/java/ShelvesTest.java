@@ -12,6 +12,7 @@ public final class ShelvesTest {
         copyingRefused();
         weights();
         failures();
+        failuresByDish();
         DUE.end();
     }
 
@@ -226,6 +227,32 @@ public final class ShelvesTest {
         DUE.is("toss(8)", b.toss(8), -1);
         DUE.is("toss(5), nothing", b.toss(5), -11);
         b.make(5, 3, 0);
-        DUE.is("toss(5), a ROW", b.toss(5), -12);
+        DUE.is("toss(5), a ROW of ints", b.toss(5), -12);
+        b.make(5, 4, 0);
+        DUE.is("toss(5), a ROW of shorts", b.toss(5), -12);
+        DUE.is("weight(4), still there", b.weight(4), 262);
+    }
+
+    /** The number is the DISH's: neither its KIND's nor its SHELF's. */
+    private static void failuresByDish() {
+        KitchenBell b = new KitchenBell();
+        for (int dish = 0; dish < 20; dish++) {
+            // GILDED ones first, so that no number is its KIND's but by chance
+            b.dish(10 * (4 - dish % 5), 1, 32, 4);
+        }
+        for (int dish = 0; dish < 20; dish++) {
+            int shelf = (3 * dish + 5) % 8;
+            b.keep(shelf, 1, dish);
+            DUE.is("toss of DISH " + dish, b.toss(shelf), dish % 5 == 4 ? -15 : dish);
+            DUE.is("toss of DISH " + dish + " again", b.toss(shelf), dish % 5 == 4 ? -15 : dish);
+        }
+        b.keep(0, 1, 0);
+        b.keep(1, 1, 0);
+        DUE.is("toss of DISH 0", b.toss(0), 0);
+        DUE.is("toss of DISH 0 on another SHELF", b.toss(1), 0);
+        b.keep(0, 1, 5);
+        DUE.is("toss of what lies there now", b.toss(0), 5);
+        b.keep(0, 0, 0);
+        DUE.is("toss of nothing", b.toss(0), -11);
     }
 }
