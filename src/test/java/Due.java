@@ -14,6 +14,15 @@ final class Due {
         System.out.println(call + " answered " + got + ", due is " + want);
     }
 
+    void same(String what, String got, String want) {
+        if (got.equals(want)) {
+            right++;
+            return;
+        }
+        wrong++;
+        System.out.println(what + ":\n  " + got + "\nbut without the call:\n  " + want);
+    }
+
     void element(KitchenBell bell, int d, int i, long want) {
         String call = "element(" + d + ", " + i + ")";
         try {
