@@ -154,6 +154,16 @@ public final class BellEdgesTest {
             DUE.is("hands(0) of " + hands, b.hands(0), 3 * atOnce);
             DUE.is("hands(1) of " + hands, b.hands(1), 3 * atOnce);
         }
+        KitchenBell nine = with(3, 0, 3, 9, 0);
+        come(nine, 1, 2, 3, 0);
+        come(nine, 1, 2, 3, 0);
+        come(nine, 2, 2, 2, 0);
+        come(nine, 2, 2, 1, 0);
+        come(nine, 2, 1, 1, 0);
+        DUE.is("fire with nine hands taken", nine.fire(order(0, 1, 2, 3, 4)), 1);
+        fired(nine, 3, 0, 1, 3);
+        fired(nine, 4, 2, 0, 4);
+        DUE.is("hands(1), all nine", nine.hands(1), 9);
         KitchenBell one = with(1, 1, 1, 1, 0);
         come(one, 1, 1, 1, 0);
         come(one, 2, 1, 2, 0);

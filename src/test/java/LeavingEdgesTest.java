@@ -18,6 +18,7 @@ public final class LeavingEdgesTest {
         eatsByTheBitsOfRights();
         eatsByNumbersOfDishes();
         eatsByRank();
+        eightEatByRank();
         eatsByNumbersOfLikeRank();
         eatsOfAMindOnly();
         eatOfNothing();
@@ -214,6 +215,28 @@ public final class LeavingEdgesTest {
             DUE.is("eats(" + officer + ", 0)", b.eats(officer, 0), has[officer]);
         }
         DUE.is("last()", b.last(), 0);
+    }
+
+    /** Eight OFFICERS of ranks in all sorts of order; each has 10 as long as there is something. */
+    private static void eightEatByRank() {
+        int[][] ranks = {{9, 8, 7, 6, 5, 4, 3, 2}, {0, 1, 2, 3, 4, 5, 6, 7}, {4, 9, 0, 4, 9, 0, 4, 0},
+            {9, 9, 9, 9, 0, 0, 0, 0}, {5, 6, 4, 7, 3, 8, 2, 9}};
+        int[][] turns = {{7, 6, 5, 4, 3, 2, 1, 0}, {0, 1, 2, 3, 4, 5, 6, 7}, {3, 6, 0, 4, 7, 1, 5, 2},
+            {4, 5, 6, 7, 0, 1, 2, 3}, {3, 4, 2, 5, 1, 6, 0, 7}};
+        for (int row = 0; row < ranks.length; row++) {
+            KitchenBell b = kinds();
+            b.left(0, 45);
+            for (int rank : ranks[row]) {
+                b.officer(rank, 10, 1);
+            }
+            for (int officer = 0; officer < 8; officer++) {
+                int turn = turns[row][officer];
+                DUE.is("eats(" + officer + ", 0), row " + row, b.eats(officer, 0), turn < 4 ? 10 : turn == 4 ? 5 : 0);
+                if (turn == 4) {
+                    DUE.is("last(), row " + row, b.last(), officer);
+                }
+            }
+        }
     }
 
     // "of like ones by numbers"
