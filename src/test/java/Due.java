@@ -20,7 +20,7 @@ final class Due {
             return;
         }
         wrong++;
-        System.out.println(what + ":\n  " + got + "\nbut without the call:\n  " + want);
+        System.out.println(what + ":\n  " + got + "\nbut due is:\n  " + want);
     }
 
     void element(KitchenBell bell, int d, int i, long want) {
